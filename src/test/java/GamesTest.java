@@ -51,6 +51,8 @@ public final class GamesTest {
         Due.is("no rest", x.game(3, 2, 0), 0);
         cells(x, 3, 1, -9, -9, -1, -3, -9, -9, -2, -1);
         Due.is("good below 0", x.game(3, 3, 1), 3);
+        cells(x, 3, 0, 0, 0, 5, -4, 0, 0, -9, 0);
+        Due.is("good by what the least rider gets", x.game(3, 3, 1), 1);
         // The least rider's choice is the lowest bit: only it gains by choice 1.
         cells(x, 0, 0, 0, 0, 7, 0, 0, 0, 7, -1);
         Due.is("whose bit", x.game(12, 0, 0), 2);
@@ -87,7 +89,7 @@ public final class GamesTest {
         x.sheet(1, 0, 24);
         x.sheet(3, 0, 9);
         int[][] bad = {{0, 0, 0}, {1, 0, 0}, {15, 1, 0}, {17, 0, 0}, {-1, 0, 0}, {3, 4, 0}, {3, -1, 0}, {3, 0, 2},
-            {3, 0, -1}, {3, 1, 0}, {7, 0, 0}, {3, 3, 0}, {3, 2, 2}, {1, 2, 0}};
+            {3, 0, -1}, {3, 1, 0}, {7, 0, 0}, {3, 3, 0}, {3, 2, 2}, {1, 2, 0}, {15, 2, 0}};
         for (int[] b : bad) {
             Due.is("game, bad " + b[0] + " " + b[1] + " " + b[2], x.game(b[0], b[1], b[2]), NobodyFirst.BAD);
         }
@@ -112,6 +114,8 @@ public final class GamesTest {
         Due.is("store 24 lasts for one", x.goes(3, 1), 3);
         Due.is("in the group itself", x.goes(1, 3), 0);
         Due.is("the stores", x.count(6), 1860);
+        x.set(0, 0, 49);
+        Due.is("one faster by 1", x.goes(1, 1), 0);
         Due.is("no road", new NobodyFirst().goes(0, 1), NobodyFirst.BAD);
         NobodyFirst y = new NobodyFirst();
         y.rider(0, 0, 40, 900);
@@ -150,6 +154,9 @@ public final class GamesTest {
         // 10, 40 + 5, 45 + 22, 50 + 33.
         Due.is("of four", x.train(15, 0), 3 * 1728 + 2 * 12 + 1);
         Due.is("of four: has", x.train(15, 1), 83);
+        x.set(0, 0, 99);
+        Due.is("rider 0 last", x.train(15, 0), 3 * 1728 + 2 * 144 + 12);
+        Due.is("rider 0 last: has", x.train(15, 1), 136);
         NobodyFirst y = riders(12);
         Due.is("like ones", y.train(0xc01, 0), 10 * 12 + 11);
         Due.is("like ones: has", y.train(0xc01, 1), 70);
@@ -223,6 +230,9 @@ public final class GamesTest {
         x.film(0, 2, 1);
         Due.is("the front and another one", x.wrong(3, 3), 2);
         Due.is("others do not matter", x.wrong(4, 3), NobodyFirst.NONE);
+        x.film(0, 1, 1);
+        Due.is("rider 0 is not the front", x.wrong(3, 3), 1);
+        x.film(0, 1, 0);
         x.film(2, 1, 1);
         Due.is("who fell back before", x.wrong(4, 3), 1);
         Due.is("who fell back behind others", x.wrong(7, 3), 1);

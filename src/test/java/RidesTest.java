@@ -5,6 +5,7 @@ public final class RidesTest {
         nobodyWorks();
         leftIsTheRoads();
         sinceCountsSitting();
+        sinceCountsSittingForLong();
         onlyOneWorks();
         fallsBack();
         frontFallsBack();
@@ -88,6 +89,21 @@ public final class RidesTest {
         for (int t = 0; t < 4; t++) {
             Due.is("sitters: front in " + t, x.ride(7, t, 2), fronts[t]);
         }
+    }
+
+    /** Closers with a low store work in the last tenths only; four at the front are enough for one. */
+    private static void sinceCountsSittingForLong() {
+        NobodyFirst x = Due.flat(10);
+        x.rider(5, 3, 50, 20);
+        x.rider(5, 3, 60, 20);
+        Due.text(x, "spend 0;fill 0;pace 50+place*9;");
+        x.force(1);
+        Due.is("closers: front in 6", x.ride(3, 6, 2), 0);
+        Due.is("closers: front in 7", x.ride(3, 7, 2), 1);
+        Due.is("closers: front in 9", x.ride(3, 9, 2), 1);
+        Due.is("closers, from 6 on: front in 9", x.ride(3, 609, 2), 0);
+        Due.is("closers, from 5 on: front in 9", x.ride(3, 509, 2), 1);
+        Due.is("the pace is that of place 0", x.ride(3, 9, 0), 500);
     }
 
     /** Who comes round to the front again in the same tenth begins anew. */

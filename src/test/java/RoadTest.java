@@ -1,6 +1,7 @@
 /** Promises 1 to 6: a new object, tenth, rider, set, told, house. */
 public final class RoadTest {
     public static void main(String[] args) {
+        constants();
         newObject();
         tenth();
         rider();
@@ -12,6 +13,14 @@ public final class RoadTest {
         toldRefuses();
         house();
         Due.end();
+    }
+
+    private static void constants() {
+        Due.is("NONE", NobodyFirst.NONE, -1);
+        Due.is("BAD", NobodyFirst.BAD, -2);
+        Due.is("STATE", NobodyFirst.STATE, -3);
+        Due.is("FULL", NobodyFirst.FULL, -4);
+        Due.is("NO", NobodyFirst.NO, -(1L << 62));
     }
 
     private static void newObject() {

@@ -102,6 +102,18 @@ public final class TextsTest {
         fault("spend 1;fill 12345;pace", 13);
         fault("spend 1 ? 12345", 8);
         fault("spendfill 1;", 0);
+        fault("xpend 1;", 0);
+        fault("spend powerz;", 6);
+        fault("spend apower;", 6);
+        // Bytes that are no signs, whatever a reader may call its tokens inside.
+        for (char c = 0; c < 10; c++) {
+            fault("spend " + c + ";", 6);
+            fault("spend 1;fill 1;pace 1;" + c, 22);
+        }
+        for (char c = 127; c < 256; c++) {
+            fault(c + "1;", 0);
+            fault("spend " + c + ";", 6);
+        }
         fault("spend 1" + (char) 160 + ";", 7);
         fault("spend " + (char) 200, 6);
     }
