@@ -1003,7 +1003,8 @@ public final class NobodyFirst {
                     stack[top] = step >= 0 ? step : names[-1 - step];
                     top++;
                 } else if (step >= Text.DENY && top > 0) {
-                    stack[top - 1] = step == Text.NEGATE ? -stack[top - 1] : truth(stack[top - 1] == 0);
+                    int of = stack[top - 1];
+                    stack[top - 1] = step == Text.NEGATE ? -of : of == 0 ? 1 : 0;
                 } else if (top > 1) {
                     top--;
                     stack[top - 1] = joined(step, stack[top - 1], stack[top]);
@@ -1017,15 +1018,11 @@ public final class NobodyFirst {
                 case Text.TIMES: return a * b;
                 case Text.PLUS: return a + b;
                 case Text.MINUS: return a - b;
-                case Text.LESS: return truth(a < b);
-                case Text.SAME: return truth(a == b);
-                case Text.BOTH: return truth(a != 0 && b != 0);
-                default: return truth(a != 0 || b != 0);
+                case Text.LESS: return a < b ? 1 : 0;
+                case Text.SAME: return a == b ? 1 : 0;
+                case Text.BOTH: return a != 0 && b != 0 ? 1 : 0;
+                default: return a != 0 || b != 0 ? 1 : 0;
             }
-        }
-
-        private static int truth(boolean is) {
-            return is ? 1 : 0;
         }
     }
 

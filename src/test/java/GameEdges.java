@@ -33,6 +33,7 @@ final class GameEdges extends Edges {
             + "the least RIDER's lowest) and each of them what it gets (8 by 3 or 4 by 2 numbers).", s -> {
                 s.riders(12).go("sheet", 0, 0, 8).go("sheet", 1, 0, 24);
                 s.no(BAD, "game", 1, 0, 0).is(15, "game", 3, 0, 0).is(255, "game", 7, 1, 0).no(BAD, "game", 15, 1, 0);
+                s.no(BAD, "game", 1, 2, 0).no(NOTHING, "game", 3, 2, 0).no(NOTHING, "game", 7, 2, 0).no(BAD, "game", 15, 2, 0);
                 s.no(BAD, "game", 2048, 0, 0).is(15, "game", 2049, 0, 0).is(255, "game", 3073, 1, 0);
                 s.no(BAD, "game", 3, 1, 0).no(BAD, "game", 7, 0, 0).no(BAD, "game", 4095, 1, 0);
                 int[] sizes = {0, 1, 7, 9, 16, 23, 25, 40};
@@ -96,7 +97,7 @@ final class GameEdges extends Edges {
                 // One as fast is at its wheel at once; of two the one that is faster by 1 gets away.
                 s.is(NONE, "goes", 1, 1).go("set", 1, 0, 50).is(NONE, "goes", 0, 2).is(NONE, "goes", 1, 1);
                 s.go("set", 1, 0, 51).is(NONE, "goes", 0, 2).is(0, "goes", 1, 1).is(0, "goes", 1, 3).is(0, "goes", 1, 7);
-                s.is(NONE, "goes", 2, 7).is(0, "goes", 0, 1).is(0, "goes", 0, 5);
+                s.is(0, "goes", 1, 6).is(0, "goes", 1, 2).is(NONE, "goes", 2, 7).is(0, "goes", 0, 1).is(0, "goes", 0, 5);
                 // 9 faster in the first tenth, it is caught in the last one by who is 3 faster there.
                 s.again().flat(3).go("rider", 0, 0, 40, 900).go("rider", 0, 0, 43, 900);
                 s.rule("spend 0;fill 0;pace power+(left=3)*(power=40)*9;").is(NONE, "goes", 0, 2).go("set", 1, 0, 42);
@@ -115,7 +116,7 @@ final class GameEdges extends Edges {
                 s.is(10 * 12 + 11, "train", 3072, 0).is(8 * 1728 + 9 * 144 + 10 * 12 + 11, "train", 3840, 0);
                 s.is(5 * 12 + 11, "train", 2048 + 32, 0).go("set", 5, 0, 51).is(11 * 12 + 5, "train", 2048 + 32, 0);
                 s.is(25 + 51, "train", 2048 + 32, 1).go("set", 11, 0, 52).is(5 * 12 + 11, "train", 2048 + 32, 0);
-                s.is(25 + 52, "train", 2048 + 32, 1);
+                s.is(25 + 52, "train", 2048 + 32, 1).go("set", 0, 0, 99).is(12, "train", 3, 0).is(25 + 99, "train", 3, 1);
                 s.again().go("rider", RIDER, 0, 40, 0).go("rider", FAST, 7, 29, 0).go("rider", PULLER, 5, 50, 0).riders(1);
                 s.go("set", 3, 0, 10);
                 // ENDS are 40, 50, 45, 10: of three 40, 65, 82; of four 10, 45, 67, 83.

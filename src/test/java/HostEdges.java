@@ -218,9 +218,9 @@ final class HostEdges extends Edges {
             s.is(1, "tenths", 0, 0, 4, 1).is(1, "count", 0).is(OUTSIDE, "tenths", 0, 0, 0, 3).is(3, "count", 0);
             s.is(55, "says", 0, 0, 0, 0).is(51, "says", 0, 1, 0, 0).is(54, "says", 0, 2, 0, 0).is(5, "says", 0, 2, 0, 1);
             s.is(OUTSIDE, "tenths", 0, 0, 1, 12).is(5, "count", 0).is(52, "says", 0, 3, 0, 0).is(55, "says", 0, 4, 0, 0);
-            s.is(OUTSIDE, "tenths", 0, 0, 4, 2).is(6, "count", 0);
+            s.is(OUTSIDE, "tenths", 0, 0, 4, 2).is(6, "count", 0).is(OUTSIDE, "tenths", 0, 0, 2, 2).is(7, "count", 0);
             // One that is left out does not end it; nor does a road that is full.
-            s.cells(0, 0, 10, 0, 3, 1, 2, 3, 4).is(OUTSIDE, "tenths", 0, 0, 0, 3).is(7, "count", 0).flat(33);
+            s.cells(0, 0, 10, 0, 3, 1, 2, 3, 4).is(OUTSIDE, "tenths", 0, 0, 0, 3).is(8, "count", 0).flat(32);
             s.no(OUTSIDE, "tenths", 0, 0, 0, 3).is(0, "tenths", 0, 0, 0, 2).go("sheet", 0, 0, 0);
             s.no(OUTSIDE, "tenths", 0, 0, 0, 1).is(0, "tenths", 0, 0, 0, 0);
         });

@@ -77,6 +77,22 @@ final class RideEdges extends Edges {
                 // It has been there, too, while nobody worked.
                 s.again().flat(4).rule(FREE).go("rider", SITTER, 2, 50, 999).go("rider", SITTER, 2, 60, 999);
                 fronts(s, 3, 0, 0, 1, 0);
+                s.again().flat(10).rule(FREE).go("rider", CLOSER, 3, 50, 20).go("rider", CLOSER, 3, 60, 20);
+                fronts(s, 3, 0, 0, 0, 0, 0, 0, 0, 1, 1, 1);
+                s.is(1, "ride", 3, 307, FRONT).is(0, "ride", 3, 407, FRONT).is(0, "ride", 3, 507, FRONT);
+                s.is(0, "ride", 3, 608, FRONT).is(0, "ride", 3, 609, FRONT).is(1, "ride", 3, 509, FRONT);
+                // Of as many riders as there can be each one leads in its turn, or none of them, or the last one alone.
+                s.again().flat(14).rule(FREE).riders(12);
+                fronts(s, 4095, 0, 1, 2, 3, 4, 5, 6, 7, 8, 9, 10, 11, 0, 1);
+                s.again().flat(3).rule(FREE);
+                for (int r = 0; r < 11; r++) {
+                    s.go("rider", REFUSER, 0, 50, 500);
+                }
+                fronts(s, 2047, 0, 0, 0);
+                s.go("rider", RIDER, 0, 50, 101);
+                fronts(s, 4095, 11, 11, 11);
+                s.go("set", 11, 1, 100);
+                fronts(s, 4095, 0, 0, 0);
             });
     }
 

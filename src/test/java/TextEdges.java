@@ -49,7 +49,7 @@ final class TextEdges extends Edges {
         Sentence.of("WORDS (a .. z),", s -> {
             s.fault(6, "spend a" + REST).fault(6, "spend z" + REST).fault(6, "spend `" + REST).fault(6, "spend {" + REST);
             s.fault(11, "spend power`" + REST).fault(11, "spend power{" + REST).fault(6, "spend Power" + REST);
-            s.fault(6, "spend powEr" + REST).fault(0, "Spend 1" + REST).fault(6, "spend _" + REST);
+            s.fault(6, "spend powera" + REST).fault(6, "spend powerz" + REST).fault(6, "spend powEr" + REST).fault(0, "Spend 1" + REST).fault(6, "spend _" + REST);
         });
         Sentence.of("NUMBERS (as many digits as stand there, 4 at most),", s -> {
             String[] good = {"0", "9", "10", "100", "1000", "9999", "0000", "0001"};
@@ -187,12 +187,23 @@ final class TextEdges extends Edges {
             for (String key : keys) {
                 s.fault(6, "spend " + key + ";").fault(10, "spend 1 + " + key + ";");
             }
-            String[] none = {"powe", "powers", "plac", "slop", "winds", "wand", "tore", "stores", "eft", "lefts", "nor",
-                "o", "x", "no", "nots", "an", "ands"};
-            for (String word : none) {
-                s.fault(6, "spend " + word + ";").fault(8, "spend 1 " + word + " 1;");
+            String[] all = {"power", "place", "slope", "wind", "store", "left", "spend", "fill", "pace", "or", "and", "not"};
+            for (String word : all) {
+                none(s, word.substring(1));
+                none(s, word.substring(0, word.length() - 1));
+                none(s, word + "s");
+                none(s, "s" + word);
+                for (int i = 0; i < word.length(); i++) {
+                    none(s, word.substring(0, i) + "x" + word.substring(i + 1));
+                }
             }
         });
+    }
+
+    /** A word that is neither key nor name can't stand anywhere. */
+    private static void none(Sentence s, String word) {
+        s.fault(0, word + " 1;").fault(6, "spend " + word + ";").fault(8, "spend 1 " + word + " 1;");
+        s.fault(8, "spend 1;" + word + " 1;").fault(15, "spend 1;fill 1;" + word + " 1;");
     }
 
     // ---- ints
@@ -263,7 +274,16 @@ final class TextEdges extends Edges {
                 s.fault(160, " ".repeat(152) + "spend(((").fault(158, " ".repeat(152) + "spend()1");
                 s.fault(6, "spend ?12345;").fault(6, "spend 12345?;").fault(6, "spend x 12345;").fault(8, "spend 1 x;");
                 s.fault(8, "spend 1 12345;").fault(8, "spend 1 ? x;").fault(6, "spend fill x;");
-                s.fault(22, "spend 1;fill 1;pace 1;?").fault(13, "spend 1;fill x;pace 12345;");
+                s.fault(13, "spend 1;fill x;pace 12345;");
+                String[] ahead = {"", " ", "spend ", "spend (", "spend -", "spend not ", "spend 1 ", "spend power ", "spend (1 ",
+                    "spend (1)", "spend 1+", "spend 1-", "spend 1*", "spend 1<", "spend 1=", "spend 1 or ", "spend 1 and ",
+                    "spend 1<1 ", "spend 1;", "spend 1;fill ", "spend 1;fill 1;", "spend 1;fill 1;pace 1;"};
+                String[] none = {"?", "x", "12345", "powers", "A", "\u00ff"};
+                for (String begun : ahead) {
+                    for (String token : none) {
+                        s.fault(begun.length(), begun + token).fault(begun.length(), begun + token + " 1;");
+                    }
+                }
             });
     }
 
