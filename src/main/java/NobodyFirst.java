@@ -691,7 +691,10 @@ public final class NobodyFirst {
         }
 
         int to(int key) {
-            return key == PACE ? steps.length : from(key + 1);
+            if (key == SPEND) {
+                return fillFrom;
+            }
+            return key == FILL ? paceFrom : steps.length;
         }
     }
 

@@ -33,7 +33,8 @@ final class GameEdges extends Edges {
             + "the least RIDER's lowest) and each of them what it gets (8 by 3 or 4 by 2 numbers).", s -> {
                 s.riders(12).go("sheet", 0, 0, 8).go("sheet", 1, 0, 24);
                 s.no(BAD, "game", 1, 0, 0).is(15, "game", 3, 0, 0).is(255, "game", 7, 1, 0).no(BAD, "game", 15, 1, 0);
-                s.no(BAD, "game", 1, 2, 0).no(NOTHING, "game", 3, 2, 0).no(NOTHING, "game", 7, 2, 0).no(BAD, "game", 15, 2, 0);
+                s.no(BAD, "game", 1, 2, 0).no(NOTHING, "game", 3, 2, 0).no(NOTHING, "game", 7, 2, 0);
+                s.no(BAD, "game", 15, 2, 0);
                 s.no(BAD, "game", 2048, 0, 0).is(15, "game", 2049, 0, 0).is(255, "game", 3073, 1, 0);
                 s.no(BAD, "game", 3, 1, 0).no(BAD, "game", 7, 0, 0).no(BAD, "game", 4095, 1, 0);
                 int[] sizes = {0, 1, 7, 9, 16, 23, 25, 40};
@@ -96,8 +97,10 @@ final class GameEdges extends Edges {
                 }
                 // One as fast is at its wheel at once; of two the one that is faster by 1 gets away.
                 s.is(NONE, "goes", 1, 1).go("set", 1, 0, 50).is(NONE, "goes", 0, 2).is(NONE, "goes", 1, 1);
-                s.go("set", 1, 0, 51).is(NONE, "goes", 0, 2).is(0, "goes", 1, 1).is(0, "goes", 1, 3).is(0, "goes", 1, 7);
-                s.is(0, "goes", 1, 6).is(0, "goes", 1, 2).is(NONE, "goes", 2, 7).is(0, "goes", 0, 1).is(0, "goes", 0, 5);
+                s.go("set", 1, 0, 51).is(NONE, "goes", 0, 2).is(0, "goes", 1, 1).is(0, "goes", 1, 3);
+                s.is(0, "goes", 1, 7);
+                s.is(0, "goes", 1, 6).is(0, "goes", 1, 2).is(NONE, "goes", 2, 7).is(0, "goes", 0, 1);
+                s.is(0, "goes", 0, 5);
                 // 9 faster in the first tenth, it is caught in the last one by who is 3 faster there.
                 s.again().flat(3).go("rider", 0, 0, 40, 900).go("rider", 0, 0, 43, 900);
                 s.rule("spend 0;fill 0;pace power+(left=3)*(power=40)*9;").is(NONE, "goes", 0, 2).go("set", 1, 0, 42);
@@ -116,11 +119,14 @@ final class GameEdges extends Edges {
                 s.is(10 * 12 + 11, "train", 3072, 0).is(8 * 1728 + 9 * 144 + 10 * 12 + 11, "train", 3840, 0);
                 s.is(5 * 12 + 11, "train", 2048 + 32, 0).go("set", 5, 0, 51).is(11 * 12 + 5, "train", 2048 + 32, 0);
                 s.is(25 + 51, "train", 2048 + 32, 1).go("set", 11, 0, 52).is(5 * 12 + 11, "train", 2048 + 32, 0);
-                s.is(25 + 52, "train", 2048 + 32, 1).go("set", 0, 0, 99).is(12, "train", 3, 0).is(25 + 99, "train", 3, 1);
-                s.again().go("rider", RIDER, 0, 40, 0).go("rider", FAST, 7, 29, 0).go("rider", PULLER, 5, 50, 0).riders(1);
+                s.is(25 + 52, "train", 2048 + 32, 1).go("set", 0, 0, 99).is(12, "train", 3, 0);
+                s.is(25 + 99, "train", 3, 1);
+                s.again().go("rider", RIDER, 0, 40, 0).go("rider", FAST, 7, 29, 0).go("rider", PULLER, 5, 50, 0);
+                s.riders(1);
                 s.go("set", 3, 0, 10);
                 // ENDS are 40, 50, 45, 10: of three 40, 65, 82; of four 10, 45, 67, 83.
-                s.is(24 + 1, "train", 7, 0).is(82, "train", 7, 1).is(3 * 1728 + 24 + 1, "train", 15, 0).is(83, "train", 15, 1);
+                s.is(24 + 1, "train", 7, 0).is(82, "train", 7, 1).is(3 * 1728 + 24 + 1, "train", 15, 0);
+                s.is(83, "train", 15, 1);
                 s.again().go("rider", 0, 0, 1, 0).go("rider", 0, 0, 1, 0).go("rider", 0, 0, 9, 0);
                 s.is(14, "train", 7, 0).is(9, "train", 7, 1).is(1, "train", 3, 0).is(1, "train", 3, 1);
                 s.again();
@@ -136,7 +142,8 @@ final class GameEdges extends Edges {
 
     private static void split() {
         Sentence.of("SPLIT: with SIDE 1 in a TENTH as many of a group as WIDE, by numbers, stay; how many don't.", s -> {
-            s.riders(12).go("tenth", 0, 9, 3).go("tenth", 0, 0, 2 * 3 + 1).go("tenth", 0, 9, 2 * 3).go("tenth", 0, 0, 41);
+            s.riders(12).go("tenth", 0, 9, 3).go("tenth", 0, 0, 2 * 3 + 1).go("tenth", 0, 9, 2 * 3);
+            s.go("tenth", 0, 0, 41);
             int[] three = {1, 3, 7, 15, 0x900, 0x906, 4095};
             int[] due = {0, 0, 0, 1, 0, 1, 9};
             for (int i = 0; i < three.length; i++) {
@@ -148,15 +155,18 @@ final class GameEdges extends Edges {
 
     private static void filmed() {
         Sentence.of("FILMED are RIDERS at the front in TENTHS (by call).", s -> {
-            s.flat(40).riders(12).is(0, "count", 5).is(0, "film", 0, 0, 1).is(0, "film", 0, 39, 1).is(0, "film", 11, 0, 1);
+            s.flat(40).riders(12).is(0, "count", 5).is(0, "film", 0, 0, 1).is(0, "film", 0, 39, 1);
+            s.is(0, "film", 11, 0, 1);
             s.is(0, "film", 11, 39, 1).is(4, "count", 5).is(1, "film", 11, 39, 1).is(4, "count", 5);
-            s.is(0, "film", 11, 38, 0).is(4, "count", 5).is(1, "film", 0, 39, 0).is(0, "film", 0, 39, 0).is(3, "count", 5);
+            s.is(0, "film", 11, 38, 0).is(4, "count", 5).is(1, "film", 0, 39, 0).is(0, "film", 0, 39, 0);
+            s.is(3, "count", 5);
             s.is(1, "film", 0, 0, 1).is(1, "film", 11, 0, 1).is(1, "film", 11, 39, 1).is(0, "film", 1, 0, 0);
         });
         Sentence.of("A RIDER was FILMED at the front in a TENTH (1), or not (0): what it was. BAD.", s -> {
             s.no(BAD, "film", 0, 0, 0).riders(1).no(BAD, "film", 0, 0, 0).flat(40).riders(11);
             s.bounds(0, 0, 11, BAD, 0, 0, "film", 0, 1, 1).bounds(1, 0, 39, BAD, 0, 0, "film", 0, 0, 1);
-            s.is(4, "count", 5).bounds(2, 0, 1, BAD, 0, 0, "film", 5, 5, 0).is(1, "film", 5, 5, 0).is(0, "film", 5, 5, 0);
+            s.is(4, "count", 5).bounds(2, 0, 1, BAD, 0, 0, "film", 5, 5, 0).is(1, "film", 5, 5, 0);
+            s.is(0, "film", 5, 5, 0);
             s.no(BAD, "film", 0, 40, 1).no(BAD, "film", 0, 63, 0).no(BAD, "film", 0, 64, 0).is(4, "count", 5);
         });
     }
@@ -166,9 +176,11 @@ final class GameEdges extends Edges {
             s.flat(4).rule(FREE).riders(2).go("rider", 0, 0, 50, 500).is(NONE, "wrong", 7, 3);
             // Of riders 0 and 1 the fronts are 0, 1, 0, 1.
             s.go("film", 0, 0, 1).go("film", 1, 1, 1).go("film", 0, 2, 1).go("film", 1, 3, 1).is(NONE, "wrong", 3, 3);
-            s.go("film", 0, 3, 1).is(3, "wrong", 3, 3).is(NONE, "wrong", 3, 2).is(NONE, "wrong", 1, 3).is(NONE, "wrong", 2, 3);
+            s.go("film", 0, 3, 1).is(3, "wrong", 3, 3).is(NONE, "wrong", 3, 2).is(NONE, "wrong", 1, 3);
+            s.is(NONE, "wrong", 2, 3);
             s.is(NONE, "wrong", 3, 202).is(1, "wrong", 3, 103).is(3, "wrong", 3, 303).go("film", 1, 0, 1);
-            s.is(0, "wrong", 3, 3).is(0, "wrong", 3, 0).is(NONE, "wrong", 4, 3).go("film", 2, 2, 1).is(NONE, "wrong", 3, 202);
+            s.is(0, "wrong", 3, 3).is(0, "wrong", 3, 0).is(NONE, "wrong", 4, 3).go("film", 2, 2, 1);
+            s.is(NONE, "wrong", 3, 202);
             s.is(2, "wrong", 7, 202).is(2, "wrong", 6, 202).is(NONE, "wrong", 4, 202);
             // Who fell back is still of the group, and nobody is the front then.
             s.again().flat(3).go("rider", 0, 0, 50, 12).riders(1).go("film", 0, 1, 1).is(NONE, "wrong", 1, 0);
@@ -181,9 +193,11 @@ final class GameEdges extends Edges {
             + "more than k times as many as are left, by m (cut).", s -> {
                 s.flat(5).go("rider", 0, 0, 40, 900).go("rider", 0, 0, 50, 900);
                 // 10 times 5, 4, 3, 2, 1 against gaps that are 10 less, or more, in each tenth.
-                s.is(31, "clock", 1, 2, 4, 50, 1001).is(0, "clock", 1, 2, 4, 51, 1001).is(31, "clock", 1, 2, 4, 0, 1001);
+                s.is(31, "clock", 1, 2, 4, 50, 1001).is(0, "clock", 1, 2, 4, 51, 1001);
+                s.is(31, "clock", 1, 2, 4, 0, 1001);
                 s.is(1, "clock", 2, 1, 4, 50, 1001).is(1, "clock", 2, 1, 4, 31, 1001).is(3, "clock", 2, 1, 4, 30, 1001);
-                s.is(4 + 8, "clock", 1, 2, 203, 30, 1001).is(0, "clock", 1, 2, 203, 31, 1001).is(16, "clock", 1, 2, 404, 10, 1001);
+                s.is(4 + 8, "clock", 1, 2, 203, 30, 1001).is(0, "clock", 1, 2, 203, 31, 1001);
+                s.is(16, "clock", 1, 2, 404, 10, 1001);
                 s.go("set", 0, 0, 50);
                 // 7 times 5, 4, 3, 2, 1 by 2, cut: 17, 14, 10, 7, 3.
                 int[] gaps = {3, 4, 7, 8, 10, 11, 14, 15, 17, 18, 9999};
@@ -191,11 +205,13 @@ final class GameEdges extends Edges {
                 for (int i = 0; i < gaps.length; i++) {
                     s.is(due[i], "clock", 1, 2, 4, gaps[i], 702);
                 }
-                s.is(1, "clock", 1, 2, 4, 495, 9901).is(0, "clock", 1, 2, 4, 496, 9901).is(3, "clock", 1, 2, 4, 396, 9901);
+                s.is(1, "clock", 1, 2, 4, 495, 9901).is(0, "clock", 1, 2, 4, 496, 9901);
+                s.is(3, "clock", 1, 2, 4, 396, 9901);
                 s.is(31, "clock", 1, 2, 4, 0, 120).is(0, "clock", 1, 2, 4, 1, 120).is(1, "clock", 1, 2, 4, 1, 105);
                 s.again().flat(40).go("rider", 0, 0, 40, 900).go("rider", 0, 0, 40, 900);
                 s.is((1L << 40) - 1, "clock", 1, 2, 39, 0, 101).is((1L << 21) - 1, "clock", 1, 2, 39, 1, 120);
-                s.is(1, "clock", 1, 2, 39, 2, 120).is(0, "clock", 1, 2, 39, 3, 120).is(1L << 39, "clock", 1, 2, 3939, 1, 101);
+                s.is(1, "clock", 1, 2, 39, 2, 120).is(0, "clock", 1, 2, 39, 3, 120);
+                s.is(1L << 39, "clock", 1, 2, 3939, 1, 101);
                 s.is(1, "clock", 1, 2, 39, 3960, 9901).is(0, "clock", 1, 2, 39, 3961, 9901);
             });
     }
@@ -209,7 +225,8 @@ final class GameEdges extends Edges {
             s.go("set", 1, 1, 999).go("film", 0, 2, 0).go("film", 1, 0, 1).flat(1).go("film", 1, 3, 1).tape(" ");
             s.go("sheet", 0, 0, 3).go("rider", 1, 13, 7, 8).go("film", 2, 1, 1).go("set", 2, 0, 9).go("set", 2, 1, 10);
             s.is(3, "back").is(1, "count", 4).is(500, "told", 0, 0, 3).is(50, "told", 0, 0, 2).is(500, "told", 1, 0, 3);
-            s.is(50, "told", 1, 0, 2).is(9, "told", 2, 0, 2).is(10, "told", 2, 0, 3).is(2, "count", 5).is(1, "film", 0, 2, 1);
+            s.is(50, "told", 1, 0, 2).is(9, "told", 2, 0, 2).is(10, "told", 2, 0, 3).is(2, "count", 5);
+            s.is(1, "film", 0, 2, 1);
             s.is(0, "film", 1, 0, 0).is(0, "film", 1, 3, 0).is(1, "film", 2, 1, 1);
             // What it does not keep is as it is.
             s.is(4, "count", 0).is(3, "count", 1).is(3, "count", 2).is(1, "count", 3).is(1, "cell", 0, 2, 1);
@@ -220,7 +237,8 @@ final class GameEdges extends Edges {
 
     private static void gamePromise() {
         Sentence.of("RESTS (what 0, bits), GOOD (1). BAD: RIDERS, SHEET, what; -11; BAD: its size.", s -> {
-            s.go("sheet", 0, 0, 8).go("sheet", 3, 0, 8).no(BAD, "game", 3, 0, 0).riders(1).no(BAD, "game", 3, 0, 0).riders(1);
+            s.go("sheet", 0, 0, 8).go("sheet", 3, 0, 8).no(BAD, "game", 3, 0, 0).riders(1).no(BAD, "game", 3, 0, 0);
+            s.riders(1);
             s.cells(0, 0, 0, 0, 2, 5, 5, 2, 3, 3).bounds(2, 0, 1, BAD, 6, 1, "game", 3, 0, 0);
             s.bounds(1, 0, 3, BAD, 6, 15, "game", 3, 0, 0).no(NOTHING, "game", 3, 1, 0).no(NOTHING, "game", 3, 2, 1);
             long[][] bad = {{0, 0, 0}, {1, 0, 0}, {2, 0, 0}, {4, 0, 0}, {5, 0, 0}, {7, 0, 0}, {-1, 0, 0}, {LEAST + 1, 0, 0},
@@ -244,12 +262,14 @@ final class GameEdges extends Edges {
 
     private static void trainPromise() {
         Sentence.of("TRAIN: the order (what 0), what the last one has (1). BAD.", s -> {
-            s.no(BAD, "train", 3, 0).riders(1).no(BAD, "train", 3, 0).riders(1).bounds(1, 0, 1, BAD, 1, 75, "train", 3, 0);
+            s.no(BAD, "train", 3, 0).riders(1).no(BAD, "train", 3, 0).riders(1);
+            s.bounds(1, 0, 1, BAD, 1, 75, "train", 3, 0);
             long[][] bad = {{0, 0}, {1, 0}, {2, 1}, {4, 0}, {5, 0}, {7, 0}, {-1, 0}, {LEAST, 0}, {LEAST + 1, 0}, {MOST, 0}};
             for (long[] args : bad) {
                 s.no(BAD, "train", args);
             }
-            s.riders(10).no(BAD, "train", 31, 0).no(BAD, "train", 4095, 1).is(93, "train", 3840, 1).no(BAD, "train", 4097, 0);
+            s.riders(10).no(BAD, "train", 31, 0).no(BAD, "train", 4095, 1).is(93, "train", 3840, 1);
+            s.no(BAD, "train", 4097, 0);
         });
     }
 
@@ -301,7 +321,8 @@ final class GameEdges extends Edges {
         });
         Sentence.of("All that it keeps is as in THE IMAGE: how many RIDERS. STATE: there is none.", s -> {
             s.no(STATE, "back").riders(1).no(STATE, "back").is(1, "image").go("set", 0, 1, 7).is(1, "back");
-            s.is(500, "told", 0, 0, 3).go("set", 0, 1, 8).is(1, "back").is(500, "told", 0, 0, 3).riders(1).is(2, "back");
+            s.is(500, "told", 0, 0, 3).go("set", 0, 1, 8).is(1, "back").is(500, "told", 0, 0, 3).riders(1);
+            s.is(2, "back");
             s.flat(1).is(3, "ridden", 3, 0).is(488, "told", 0, 0, 3).is(493, "told", 1, 0, 3).is(2, "back");
             s.is(500, "told", 0, 0, 3).is(493, "told", 1, 0, 3);
         });
@@ -313,7 +334,8 @@ final class GameEdges extends Edges {
                 s.is(0, "count", 0).is(0, "count", 1).is(1, "count", 2).is(0, "count", 3).is(0, "count", 4);
                 s.is(0, "count", 5).is(0, "count", 6).flat(40);
                 for (int r = 0; r < 12; r++) {
-                    s.go("rider", 0, 0, 50, 999).go("film", r, 39, 1).is(999 * (r + 1), "count", 6).is(r + 1, "count", 5);
+                    s.go("rider", 0, 0, 50, 999).go("film", r, 39, 1).is(999 * (r + 1), "count", 6);
+                    s.is(r + 1, "count", 5);
                 }
                 s.go("film", 0, 0, 1).is(13, "count", 5);
                 for (int i = 1; i < 6; i++) {

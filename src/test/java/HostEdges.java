@@ -28,7 +28,8 @@ final class HostEdges extends Edges {
         Sentence.of("SHEETS 0 .. 3 are rows of numbers, or missing (as all are at first): of sort 0 bytes, 1 shorts, 2 ints.",
             s -> {
                 s.bounds(0, 0, 3, BAD, 1, 1, "sheet", 0, 0, 1).is(1, "cell", 0, 0, 5).is(1, "cell", 3, 0, 5);
-                s.no(NOTHING, "cell", 1, 0, 5).no(NOTHING, "cell", 2, 0, 5).no(BAD, "cell", 4, 0, 5).no(BAD, "cell", -1, 0, 5);
+                s.no(NOTHING, "cell", 1, 0, 5).no(NOTHING, "cell", 2, 0, 5).no(BAD, "cell", 4, 0, 5);
+                s.no(BAD, "cell", -1, 0, 5);
                 for (int sort = 0; sort < 3; sort++) {
                     s.is(1, "sheet", 2, sort, 3);
                     for (int other = 0; other < 3; other++) {
@@ -55,10 +56,12 @@ final class HostEdges extends Edges {
                 }
                 s.no(BAD, "sheet", 0, 0, 41).no(BAD, "sheet", 0, 0, MOST).no(BELOW, "sheet", 0, 0, -1);
                 s.no(BELOW, "sheet", 0, 0, LEAST).is(1, "cell", 0, 39, 1);
-                s.no(BAD, "sheet", 4, 0, -1).no(BAD, "sheet", -1, -1, 0).no(BAD, "sheet", 0, 3, -1).no(BAD, "sheet", 0, -2, 41);
+                s.no(BAD, "sheet", 4, 0, -1).no(BAD, "sheet", -1, -1, 0).no(BAD, "sheet", 0, 3, -1);
+                s.no(BAD, "sheet", 0, -2, 41);
                 int[] any = {-1, 0, 41, MOST, LEAST};
                 for (int n : any) {
-                    s.is(1, "sheet", 0, 0, 3).is(1, "sheet", 0, -1, n).no(NOTHING, "cell", 0, 0, 1).is(1, "sheet", 1, -1, n);
+                    s.is(1, "sheet", 0, 0, 3).is(1, "sheet", 0, -1, n).no(NOTHING, "cell", 0, 0, 1);
+                    s.is(1, "sheet", 1, -1, n);
                 }
             });
         Sentence.of("all 0,", s -> {
@@ -81,9 +84,11 @@ final class HostEdges extends Edges {
             s -> {
                 s.go("sheet", 0, 0, 40).go("sheet", 3, 0, 1).go("sheet", 1, 0, 0);
                 s.bounds(0, 0, 3, BAD, 1, 1, "cell", 0, 0, 7).bounds(1, 0, 39, OUTSIDE, 1, 1, "cell", 0, 0, 7);
-                s.bounds(1, 0, 0, OUTSIDE, 1, 1, "cell", 3, 0, 7).no(OUTSIDE, "cell", 1, 0, 7).no(OUTSIDE, "cell", 1, -1, 7);
+                s.bounds(1, 0, 0, OUTSIDE, 1, 1, "cell", 3, 0, 7).no(OUTSIDE, "cell", 1, 0, 7);
+                s.no(OUTSIDE, "cell", 1, -1, 7);
                 s.no(NOTHING, "cell", 2, 0, 7).no(NOTHING, "cell", 2, -1, 7).no(NOTHING, "cell", 2, MOST, 7);
-                s.no(BAD, "cell", 4, -1, 7).no(BAD, "cell", -1, 0, 7).is(1, "cell", 0, 0, MOST).is(1, "cell", 0, 0, LEAST);
+                s.no(BAD, "cell", 4, -1, 7).no(BAD, "cell", -1, 0, 7).is(1, "cell", 0, 0, MOST);
+                s.is(1, "cell", 0, 0, LEAST);
             });
     }
 
@@ -120,7 +125,8 @@ final class HostEdges extends Edges {
     private static void holds(Sentence s, int sheet, int sort, int... cells) {
         for (int i = 0; i < cells.length; i += 3) {
             int t = s.answer("count", 0);
-            s.is(1, "tenths", sheet, sort, i, 1).is(50 + cells[i], "says", 0, t, 0, 0).is(cells[i + 1], "says", 0, t, 0, 1);
+            s.is(1, "tenths", sheet, sort, i, 1).is(50 + cells[i], "says", 0, t, 0, 0);
+            s.is(cells[i + 1], "says", 0, t, 0, 1);
             s.is(cells[i + 2] % 2 == 1 ? Math.max(0, 12 - cells[i + 2] / 2) : 0, "split", 4095, t);
         }
     }
@@ -198,7 +204,8 @@ final class HostEdges extends Edges {
                 }
                 s.no(BAD, "tenths", 0, 3, 0, 1).no(BAD, "tenths", 0, -1, 0, 1).no(BAD, "tenths", 1, 3, 0, 1);
                 s.no(BAD, "tenths", 4, 2, 0, 1).no(BAD, "tenths", -1, 2, 0, 1).no(BAD, "tenths", MOST, 2, 0, 0);
-                readers(s).cells(1, 1, -9, 0, 2, -10, 0, 2, 9, 9, 41, 10, 9, 41, 0, 0, 1, 0, 0, 42, 0, 10, 2, 0, -1, 2, 0, 9, 3);
+                readers(s);
+                s.cells(1, 1, -9, 0, 2, -10, 0, 2, 9, 9, 41, 10, 9, 41, 0, 0, 1, 0, 0, 42, 0, 10, 2, 0, -1, 2, 0, 9, 3);
                 s.is(3, "tenths", 1, 1, 0, 9).is(3, "count", 0).is(41, "says", 0, 0, 0, 0).is(59, "says", 0, 1, 0, 0);
                 s.is(9, "says", 0, 2, 0, 1).is(11, "split", 4095, 2).flat(36).is(1, "tenths", 1, 1, 0, 9);
                 s.is(0, "tenths", 1, 1, 0, 9).is(40, "count", 0).is(41, "says", 0, 39, 0, 0);
@@ -207,7 +214,8 @@ final class HostEdges extends Edges {
 
     private static void tenthsAhead() {
         Sentence.of("-13; -11; -12: what stood ahead came.", s -> {
-            readers(s).cells(0, 0, 1, 2, 3, 4, 5, 7, 6).no(UNLIKE, "tenths", 0, 1, 0, 1).no(UNLIKE, "tenths", 0, 2, -1, 0);
+            readers(s).cells(0, 0, 1, 2, 3, 4, 5, 7, 6).no(UNLIKE, "tenths", 0, 1, 0, 1);
+            s.no(UNLIKE, "tenths", 0, 2, -1, 0);
             for (int sort = 0; sort < 3; sort++) {
                 s.no(NOTHING, "tenths", 2, sort, 0, 0).no(NOTHING, "tenths", 2, sort, -1, 12);
             }
@@ -216,8 +224,10 @@ final class HostEdges extends Edges {
                 s.no(OUTSIDE, "tenths", 0, 0, i, 1).no(OUTSIDE, "tenths", 0, 0, i, 12);
             }
             s.is(1, "tenths", 0, 0, 4, 1).is(1, "count", 0).is(OUTSIDE, "tenths", 0, 0, 0, 3).is(3, "count", 0);
-            s.is(55, "says", 0, 0, 0, 0).is(51, "says", 0, 1, 0, 0).is(54, "says", 0, 2, 0, 0).is(5, "says", 0, 2, 0, 1);
-            s.is(OUTSIDE, "tenths", 0, 0, 1, 12).is(5, "count", 0).is(52, "says", 0, 3, 0, 0).is(55, "says", 0, 4, 0, 0);
+            s.is(55, "says", 0, 0, 0, 0).is(51, "says", 0, 1, 0, 0).is(54, "says", 0, 2, 0, 0);
+            s.is(5, "says", 0, 2, 0, 1);
+            s.is(OUTSIDE, "tenths", 0, 0, 1, 12).is(5, "count", 0).is(52, "says", 0, 3, 0, 0);
+            s.is(55, "says", 0, 4, 0, 0);
             s.is(OUTSIDE, "tenths", 0, 0, 4, 2).is(6, "count", 0).is(OUTSIDE, "tenths", 0, 0, 2, 2).is(7, "count", 0);
             // One that is left out does not end it; nor does a road that is full.
             s.cells(0, 0, 10, 0, 3, 1, 2, 3, 4).is(OUTSIDE, "tenths", 0, 0, 0, 3).is(8, "count", 0).flat(32);
@@ -232,7 +242,8 @@ final class HostEdges extends Edges {
         Sentence.of("A RIDER taken for one of KIND k (0 .. 5), or one under that one (also by others between): its NUMBER. "
             + "BAD: k; -11: no such RIDER; -13.", s -> {
                 s.no(NOTHING, "taken", 0, 0).no(BAD, "taken", 0, 6).no(BAD, "taken", 0, -1);
-                s.go("rider", 3, 38, 50, 0).go("rider", 5, 29, 50, 0).go("rider", 0, 10, 50, 0).go("rider", 4, 0, 50, 0).riders(8);
+                s.go("rider", 3, 38, 50, 0).go("rider", 5, 29, 50, 0).go("rider", 0, 10, 50, 0);
+                s.go("rider", 4, 0, 50, 0).riders(8);
                 s.is(8, "taken", 0, 3).is(8, "taken", 0, 2).is(8, "taken", 0, 0).no(UNLIKE, "taken", 0, 1);
                 s.no(UNLIKE, "taken", 0, 4).no(UNLIKE, "taken", 0, 5);
                 s.is(9, "taken", 1, 5).is(9, "taken", 1, 1).is(9, "taken", 1, 0).no(UNLIKE, "taken", 1, 2);
@@ -241,7 +252,8 @@ final class HostEdges extends Edges {
                     s.no(UNLIKE, "taken", 2, k);
                 }
                 s.bounds(0, 0, 11, NOTHING, 8, 0, "taken", 0, 0).bounds(1, 0, 5, BAD, 9, 9, "taken", 1, 0);
-                s.no(BAD, "taken", 12, 6).no(BAD, "taken", -1, -1).no(NOTHING, "taken", 12, 5).no(NOTHING, "taken", -1, 5);
+                s.no(BAD, "taken", 12, 6).no(BAD, "taken", -1, -1).no(NOTHING, "taken", 12, 5);
+                s.no(NOTHING, "taken", -1, 5);
             });
     }
 }

@@ -6,7 +6,9 @@ import java.lang.reflect.Modifier;
 import java.nio.file.Files;
 import java.nio.file.Path;
 import java.util.ArrayList;
+import java.util.HashMap;
 import java.util.List;
+import java.util.Map;
 import java.util.regex.Matcher;
 import java.util.regex.Pattern;
 
@@ -18,14 +20,20 @@ public final class LanguageTest {
         words();
         face();
         sizes();
+        depth();
         room();
         Due.end();
     }
 
+    /** The source without comments, and with empty texts. */
+    private static String code() throws Exception {
+        return Files.readString(SOURCE).replaceAll("(?s)/\\*.*?\\*/", "").replaceAll("//[^\n]*", "")
+            .replaceAll("\"[^\"\n]*\"", "\"\"");
+    }
+
     private static void words() throws Exception {
         String source = Files.readString(SOURCE);
-        String code = source.replaceAll("(?s)/\\*.*?\\*/", "").replaceAll("//[^\n]*", "")
-            .replaceAll("\"[^\"\n]*\"", "\"\"");
+        String code = code();
         String[] ruledOut = {"\\bthrow\\b", "\\btry\\b", "\\bcatch\\b", "\\bsynchronized\\b", "\\bassert\\b", "->", "::",
             "Exact\\b", "\\bpackage\\b", "\\bprotected\\b", "\\bstatic\\s*\\{", "\\bObject\\b", "\\bthis\\b",
             "System\\.(?!arraycopy)", "Math\\.(?!max|min)", "\\bhashCode\\b", "\\btoString\\b"};
@@ -93,6 +101,35 @@ public final class LanguageTest {
                 begun = -1;
             }
         }
+    }
+
+    /** Calls that are no recursion go at most eight deep; what reads a text, part by part, counts as one. */
+    private static void depth() throws Exception {
+        Map<String, String> bodies = new HashMap<>();
+        Matcher head = Pattern.compile("(?ms)^( {4}| {8})(?! )[\\w\\[\\] ]+ (\\w+)\\([^;{}]*\\) \\{$(.*?)^\\1\\}").matcher(code());
+        while (head.find()) {
+            bodies.merge(node(head.group(2)), head.group(3), String::concat);
+        }
+        Due.is("methods found: " + bodies.size(), bodies.size() > 80 ? 1 : 0, 1);
+        for (String name : bodies.keySet()) {
+            Due.is("calls of " + name + " go too deep", depthOf(name, bodies) > 8 ? 1 : 0, 0);
+        }
+    }
+
+    private static String node(String name) {
+        return name.matches("read(Either|Both|Denied|Behind|Sum|Term|One|Inside)") ? "read" : name;
+    }
+
+    private static int depthOf(String name, Map<String, String> bodies) {
+        int deepest = 0;
+        Matcher call = Pattern.compile("(\\w+)\\(").matcher(bodies.get(name));
+        while (call.find()) {
+            String called = node(call.group(1));
+            if (!called.equals(name) && bodies.containsKey(called)) {
+                deepest = Math.max(deepest, depthOf(called, bodies));
+            }
+        }
+        return deepest + 1;
     }
 
     /** What an object and 512 of the dearest calls make stays far below what the room has. */

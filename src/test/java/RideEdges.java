@@ -119,7 +119,8 @@ final class RideEdges extends Edges {
         Sentence.of("(as it begins)", s -> {
             s.flat(3).rule("spend 1;fill 0;pace 1;").go("rider", PULLER, 0, 50, 22).go("rider", RIDER, 0, 50, 900);
             fronts(s, 3, 0, 1, 1);
-            s.again().flat(3).rule("spend 0;fill 1;pace 1;").go("rider", PULLER, 0, 50, 20).go("rider", RIDER, 0, 50, 900);
+            s.again().flat(3).rule("spend 0;fill 1;pace 1;").go("rider", PULLER, 0, 50, 20);
+            s.go("rider", RIDER, 0, 50, 900);
             fronts(s, 3, 1, 0, 1);
             s.again().flat(4).rule(FREE).go("rider", SITTER, 2, 50, 900).go("rider", RIDER, 0, 50, 900);
             fronts(s, 3, 1, 1, 0, 1);
@@ -198,7 +199,8 @@ final class RideEdges extends Edges {
                 for (int r = 0; r < 4; r++) {
                     s.is(spent[r], "spent", 15, 0, r);
                 }
-                s.is(99, "ride", 15, 0, FAR).is(15, "ride", 15, 0, LEFT).is(0, "ride", 15, 0, FRONT).is(1, "ride", 15, 1, FRONT);
+                s.is(99, "ride", 15, 0, FAR).is(15, "ride", 15, 0, LEFT).is(0, "ride", 15, 0, FRONT);
+                s.is(1, "ride", 15, 1, FRONT);
                 s.is(2000, "count", 6).is(15, "ridden", 15, 0).is(1982, "count", 6);
                 for (int r = 0; r < 4; r++) {
                     s.is(500 - spent[r], "told", r, 0, 3);
@@ -221,7 +223,8 @@ final class RideEdges extends Edges {
                 for (int i = 0; i < gaps.length; i++) {
                     s.is(due[i], "caught", 1, 2, 3, gaps[i], 0).is(gaps[i] - 40, "caught", 1, 2, 3, gaps[i], 1);
                 }
-                s.is(3, "caught", 1, 2, 203, 20, 0).is(NONE, "caught", 1, 2, 203, 21, 0).is(1, "caught", 1, 2, 203, 21, 1);
+                s.is(3, "caught", 1, 2, 203, 20, 0).is(NONE, "caught", 1, 2, 203, 21, 0);
+                s.is(1, "caught", 1, 2, 203, 21, 1);
                 s.is(NONE, "caught", 2, 1, 3, 0, 0).is(40, "caught", 2, 1, 3, 0, 1);
                 // Rider 2 has two tenths at 60, and then falls back: the gap grows again.
                 s.is(0, "caught", 1, 4, 3, 20, 0).is(58, "caught", 1, 4, 3, 20, 1).is(1, "caught", 1, 4, 3, 21, 0);
@@ -265,7 +268,8 @@ final class RideEdges extends Edges {
                 s.rule("spend (place=11)*99;fill (place=0)*99;pace 1;").is(-198, "worth", 0, 0, 11);
             });
         Sentence.of("WORTH. NO: none such.", s -> {
-            s.no(NO, "worth", 0, 0, 0).riders(1).no(NO, "worth", 0, 0, 0).go("tenth", 0, 9, 20).flat(38).go("tenth", 0, 0, 3);
+            s.no(NO, "worth", 0, 0, 0).riders(1).no(NO, "worth", 0, 0, 0).go("tenth", 0, 9, 20).flat(38);
+            s.go("tenth", 0, 0, 3);
             s.riders(10).go("rider", 0, 0, 1, 9);
             s.bounds(0, 0, 11, NO, 5, 5, "worth", 0, 0, 1).bounds(1, 0, 39, NO, 5, 0, "worth", 0, 0, 1);
             s.bounds(2, 0, 11, NO, 0, 32, "worth", 0, 0, 1);
@@ -276,7 +280,8 @@ final class RideEdges extends Edges {
         Sentence.of("LEAST LOSS: the RIDER of a group as whose front (the others behind it by numbers) all of it together "
             + "spend least, less what they gain, in a TENTH; of like ones the least.", s -> {
                 s.flat(1).go("tenth", 0, 0, 5);
-                s.go("rider", 0, 0, 40, 500).go("rider", 0, 0, 30, 500).go("rider", 0, 0, 30, 500).go("rider", 0, 0, 50, 500);
+                s.go("rider", 0, 0, 40, 500).go("rider", 0, 0, 30, 500).go("rider", 0, 0, 30, 500);
+                s.go("rider", 0, 0, 50, 500);
                 s.is(0, "turns", 15, 0, 0).is(18, "turns", 15, 0, 1).is(1, "turns", 14, 0, 0).is(21, "turns", 14, 0, 1);
                 s.is(31, "turns", 14, 1, 1).is(3, "turns", 8, 0, 0).is(12, "turns", 8, 0, 1);
                 // By powers 40, 30, 30, 50 at the front, and 10 more for who rides just behind rider 0 or has it there.
@@ -300,7 +305,8 @@ final class RideEdges extends Edges {
         Sentence.of("A RIDE: FAR (what 0), LEFT (1), FRONT of the last TENTH (2; NONE). BAD.", s -> {
             s.flat(2).go("rider", 0, 0, 60, 12).bounds(2, 0, 2, BAD, 60, 0, "ride", 1, 0, 0);
             s.is(0, "ride", 1, 0, LEFT).is(NONE, "ride", 1, 1, FRONT).is(61, "ride", 1, 1, FAR);
-            s.no(BAD, "ride", 0, 0, FAR).no(BAD, "ride", 2, 0, FAR).no(BAD, "ride", 1, 2, FAR).no(BAD, "ride", 1, 100, FAR);
+            s.no(BAD, "ride", 0, 0, FAR).no(BAD, "ride", 2, 0, FAR).no(BAD, "ride", 1, 2, FAR);
+            s.no(BAD, "ride", 1, 100, FAR);
             s.go("set", 0, 1, 25).is(60, "ride", 1, 101, FAR).is(1, "ride", 1, 1, LEFT).is(0, "ride", 1, 1, FRONT);
         });
     }

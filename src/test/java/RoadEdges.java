@@ -288,7 +288,8 @@ final class RoadEdges extends Edges {
 
     private static void setPromise() {
         Sentence.of("POWER (what 0), STORE (1) of a RIDER become v: what was. BAD.", s -> {
-            s.riders(12).bounds(2, 1, 99, BAD, 50, 1, "set", 11, 0, 0).is(99, "told", 11, 0, 2).is(500, "told", 11, 0, 3);
+            s.riders(12).bounds(2, 1, 99, BAD, 50, 1, "set", 11, 0, 0).is(99, "told", 11, 0, 2);
+            s.is(500, "told", 11, 0, 3);
             s.again().riders(12).bounds(2, 0, 999, BAD, 500, 0, "set", 11, 1, 0);
             s.is(999, "told", 11, 0, 3).is(50, "told", 11, 0, 2);
             s.again().riders(12).bounds(0, 0, 11, BAD, 500, 500, "set", 0, 1, 7).is(5014, "count", 6);
@@ -306,7 +307,8 @@ final class RoadEdges extends Edges {
                 for (int what = 0; what < due.length; what++) {
                     s.bounds(1, 0, 40, BAD, due[what], what == WORKS ? 0 : due[what], "told", 0, 0, what);
                 }
-                s.bounds(2, 0, 7, BAD, CLOSER, 54, "told", 0, 0, 0).is(1, "told", 0, 7, WORKS).is(0, "told", 0, 8, WORKS);
+                s.bounds(2, 0, 7, BAD, CLOSER, 54, "told", 0, 0, 0).is(1, "told", 0, 7, WORKS);
+                s.is(0, "told", 0, 8, WORKS);
                 s.again().go("rider", SITTER, 0, 9, 0).riders(10).go("rider", FAST, 3, 9, 0);
                 s.bounds(0, 0, 11, BAD, 9, 18, "told", 0, 0, ENDS).again().no(BAD, "told", 0, 0, 0);
             });

@@ -47,9 +47,11 @@ final class TextEdges extends Edges {
             s.fault(6, "spend notnot 1" + REST);
         });
         Sentence.of("WORDS (a .. z),", s -> {
-            s.fault(6, "spend a" + REST).fault(6, "spend z" + REST).fault(6, "spend `" + REST).fault(6, "spend {" + REST);
+            s.fault(6, "spend a" + REST).fault(6, "spend z" + REST).fault(6, "spend `" + REST);
+            s.fault(6, "spend {" + REST);
             s.fault(11, "spend power`" + REST).fault(11, "spend power{" + REST).fault(6, "spend Power" + REST);
-            s.fault(6, "spend powera" + REST).fault(6, "spend powerz" + REST).fault(6, "spend powEr" + REST).fault(0, "Spend 1" + REST).fault(6, "spend _" + REST);
+            s.fault(6, "spend powera" + REST).fault(6, "spend powerz" + REST).fault(6, "spend powEr" + REST);
+            s.fault(0, "Spend 1" + REST).fault(6, "spend _" + REST);
         });
         Sentence.of("NUMBERS (as many digits as stand there, 4 at most),", s -> {
             String[] good = {"0", "9", "10", "100", "1000", "9999", "0000", "0001"};
@@ -92,10 +94,13 @@ final class TextEdges extends Edges {
     private static void text() {
         Sentence.of("TEXT: spend E ; fill E ; pace E ;", s -> {
             s.text(1, "spend 1;fill 1;pace 1;");
-            s.fault(0, "fill 1;spend 1;pace 1;").fault(8, "spend 1;pace 1;fill 1;").fault(15, "spend 1;fill 1;spend 1;");
-            s.fault(15, "spend 1;fill 1;fill 1;").fault(8, "spend 1;spend 1;").fault(0, ";").fault(0, "1;").fault(5, "spend;");
+            s.fault(0, "fill 1;spend 1;pace 1;").fault(8, "spend 1;pace 1;fill 1;");
+            s.fault(15, "spend 1;fill 1;spend 1;");
+            s.fault(15, "spend 1;fill 1;fill 1;").fault(8, "spend 1;spend 1;").fault(0, ";").fault(0, "1;");
+            s.fault(5, "spend;");
             s.fault(13, "spend 1;fill ;pace 1;").fault(20, "spend 1;fill 1;pace ;").fault(8, "spend 1 fill 1;");
-            s.fault(14, "spend 1;fill 1pace 1;").fault(22, "spend 1;fill 1;pace 1;;").fault(22, "spend 1;fill 1;pace 1;1");
+            s.fault(14, "spend 1;fill 1pace 1;").fault(22, "spend 1;fill 1;pace 1;;");
+            s.fault(22, "spend 1;fill 1;pace 1;1");
             s.fault(22, "spend 1;fill 1;pace 1;spend 1;fill 1;pace 1;").fault(21, "spend 1;fill 1;pace 1)");
         });
     }
@@ -113,14 +118,16 @@ final class TextEdges extends Edges {
             value(s, 5, "5");
             value(s, 1, "1 or 1 and 0");
             value(s, 1, "0 and 1 or 1");
-            s.fault(6, "spend or 1;").fault(10, "spend 1 or;").fault(11, "spend 1 or or 1;").fault(11, "spend 1 or and 1;");
+            s.fault(6, "spend or 1;").fault(10, "spend 1 or;").fault(11, "spend 1 or or 1;");
+            s.fault(11, "spend 1 or and 1;");
         });
         Sentence.of("AND: NOT { and NOT }.", s -> {
             value(s, 1, "1 and 1");
             value(s, 0, "1 and 1 and 1 and 0");
             value(s, 1, "1 and not 0");
             value(s, 0, "not 0 and 0");
-            s.fault(6, "spend and 1;").fault(11, "spend 1 and;").fault(12, "spend 1 and and 1;").fault(12, "spend 1 and or 1;");
+            s.fault(6, "spend and 1;").fault(11, "spend 1 and;").fault(12, "spend 1 and and 1;");
+            s.fault(12, "spend 1 and or 1;");
         });
     }
 
@@ -169,7 +176,8 @@ final class TextEdges extends Edges {
             value(s, 1, "(0 or 1 and 2 < 3 + 4 * 5)");
             value(s, 9, "(1 + 2) * 3");
             value(s, 5, "((5))");
-            s.fault(7, "spend ();").fault(8, "spend (1;").fault(8, "spend (1").fault(7, "spend 1);").fault(9, "spend (1));");
+            s.fault(7, "spend ();").fault(8, "spend (1;").fault(8, "spend (1").fault(7, "spend 1);");
+            s.fault(9, "spend (1));");
             s.fault(7, "spend -;").fault(7, "spend 1(2);").fault(9, "spend (1)2;").fault(9, "spend (1)(2);");
             s.fault(12, "spend power power;").fault(7, "spend -+1;").fault(7, "spend (fill);");
         });
@@ -294,7 +302,8 @@ final class TextEdges extends Edges {
             for (String e : five) {
                 s.again().text(1, "spend " + e + REST);
             }
-            s.fault(11, "spend ((((((1))))));").fault(11, "spend ------1;").fault(26, "spend not not not not not not 1;");
+            s.fault(11, "spend ((((((1))))));").fault(11, "spend ------1;");
+            s.fault(26, "spend not not not not not not 1;");
             s.fault(26, "spend not not not not not (1);").fault(26, "spend not not not not not -1;");
             s.fault(11, "spend (((((-1)))));").fault(11, "spend (((((not 1)))));").fault(11, "spend -----(1);");
             s.fault(13, "spend 1-------1;").fault(13, "spend 1------(1);").fault(13, "spend not(-(-(1)));");
@@ -312,8 +321,10 @@ final class TextEdges extends Edges {
             for (String e : good) {
                 s.again().text(1, "spend " + e + ";fill (((((1)))));pace -----1;");
             }
-            s.fault(16, "spend not 1<-----1;").fault(16, "spend not 1+(((((1)))));").fault(19, "spend not not 1=--(-1);");
-            s.fault(16, "spend not 1*(----1);").fault(15, "spend (1+((((1+(1))))));").fault(16, "spend (-1)+((((((1))))));");
+            s.fault(16, "spend not 1<-----1;").fault(16, "spend not 1+(((((1)))));");
+            s.fault(19, "spend not not 1=--(-1);");
+            s.fault(16, "spend not 1*(----1);").fault(15, "spend (1+((((1+(1))))));");
+            s.fault(16, "spend (-1)+((((((1))))));");
         });
     }
 
@@ -340,11 +351,14 @@ final class TextEdges extends Edges {
                     s.is(three[place], "says", 0, 0, place, 0).is(place, "says", 0, 1, place, 0);
                     s.is(0, "says", 0, 2, place, 0).is(place, "says", 0, 3, place, 0);
                 }
-                s.is(22, "says", 0, 0, 2, 1).is(20, "says", 0, 0, 3, 1).is(42, "says", 0, 0, 2, 2).is(40, "says", 0, 0, 3, 2);
+                s.is(22, "says", 0, 0, 2, 1).is(20, "says", 0, 0, 3, 1).is(42, "says", 0, 0, 2, 2);
+                s.is(40, "says", 0, 0, 3, 2);
                 s.rule("spend power;fill slope+9;pace wind;").is(1, "says", 0, 0, 0, 0).go("set", 0, 0, 99);
-                s.is(99, "says", 0, 0, 0, 0).is(9, "says", 0, 0, 0, 1).is(0, "says", 0, 3, 0, 1).is(9, "says", 0, 3, 0, 2);
+                s.is(99, "says", 0, 0, 0, 0).is(9, "says", 0, 0, 0, 1).is(0, "says", 0, 3, 0, 1);
+                s.is(9, "says", 0, 3, 0, 2);
                 s.again().flat(40).go("rider", 0, 0, 1, 0).rule("spend left;fill store;pace left;");
-                s.is(40, "says", 0, 0, 0, 0).is(1, "says", 0, 39, 0, 0).is(40, "says", 0, 0, 0, 2).is(0, "says", 0, 0, 0, 1);
+                s.is(40, "says", 0, 0, 0, 0).is(1, "says", 0, 39, 0, 0).is(40, "says", 0, 0, 0, 2);
+                s.is(0, "says", 0, 0, 0, 1);
                 s.go("set", 0, 1, 98).is(98, "says", 0, 0, 0, 1).is(1 + 2 + 3, "ride", 1, 3739, 0);
                 // In the ride: 98 - 2 + 98, then less 1 and 99 more, as the bound of fill has it.
                 s.is(98 - 292, "spent", 1, 3839, 0);
@@ -385,7 +399,8 @@ final class TextEdges extends Edges {
                     s.is(spend[place], "says", 0, 0, place, 0).is(fill[place], "says", 0, 0, place, 1);
                     s.is(33, "says", 0, 0, place, 2);
                 }
-                s.is(3, "says", 0, 1, 0, 0).is(0, "says", 0, 1, 1, 0).is(49, "says", 0, 1, 0, 2).is(11, "says", 0, 1, 11, 1);
+                s.is(3, "says", 0, 1, 0, 0).is(0, "says", 0, 1, 1, 0).is(49, "says", 0, 1, 0, 2);
+                s.is(11, "says", 0, 1, 11, 1);
                 s.is(30, "says", 0, 2, 0, 0).is(22, "says", 0, 2, 0, 2).is(1, "says", 1, 2, 0, 2);
             });
     }
@@ -419,7 +434,8 @@ final class TextEdges extends Edges {
             + "-100 less the place of its FAULT. FULL (ahead of all): no TEXT more has room (THE TAPE stays).", s -> {
                 s.is(-100, "text").text(1, "spend 1" + REST).is(0, "count", 3).is(-100, "text");
                 s.text(-101, " ?").is(0, "count", 3).text(-260, " ".repeat(160)).is(0, "count", 3).is(2, "count", 2);
-                s.text(2, "spend 2" + REST).text(3, "spend 3" + REST).text(4, "spend 4" + REST).text(5, "spend 5" + REST);
+                s.text(2, "spend 2" + REST).text(3, "spend 3" + REST).text(4, "spend 4" + REST);
+                s.text(5, "spend 5" + REST);
                 s.no(FULL, "text").is(0, "count", 3).is(1, "feed", 1, '?').no(FULL, "text").is(1, "count", 3);
                 s.is(2, "feed", 1, ' ').no(FULL, "text").is(2, "count", 3);
             });
@@ -432,7 +448,8 @@ final class TextEdges extends Edges {
                 s.text(i, "spend " + i + REST);
             }
             s.is(0, "count", 4).bounds(0, 0, 5, BAD, 0, 0, "force", 0).is(5, "count", 4).is(5, "says", 0, 0, 0, 0);
-            s.is(5, "force", 2).is(2, "says", 0, 0, 0, 0).is(2, "force", 2).is(2, "force", 0).is(12, "says", 0, 0, 0, 0);
+            s.is(5, "force", 2).is(2, "says", 0, 0, 0, 0).is(2, "force", 2).is(2, "force", 0);
+            s.is(12, "says", 0, 0, 0, 0);
         });
     }
 
