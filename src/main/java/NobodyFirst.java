@@ -474,16 +474,21 @@ public final class NobodyFirst {
     private static int restsOf(Sheet gets, int n) {
         int rests = 0;
         for (int choice = 0; choice < 1 << n; choice++) {
-            boolean rest = true;
-            for (int i = 0; i < n; i++) {
-                int otherwise = choice ^ 1 << i;
-                rest &= gets.cells[otherwise * n + i] <= gets.cells[choice * n + i];
-            }
-            if (rest) {
+            if (isRest(gets, n, choice)) {
                 rests |= 1 << choice;
             }
         }
         return rests;
+    }
+
+    private static boolean isRest(Sheet gets, int n, int choice) {
+        for (int i = 0; i < n; i++) {
+            int otherwise = choice ^ 1 << i;
+            if (gets.cells[otherwise * n + i] > gets.cells[choice * n + i]) {
+                return false;
+            }
+        }
+        return true;
     }
 
     private static int goodOf(Sheet gets, int n) {
